@@ -83,6 +83,13 @@ public final class ChariotsTest {
         add(x, 0, 1, 0, 4, 0);
         x.run(1);
         at("ticks and places from 1 on", x, 0, 2, 1, 0, 1, 1, 1);
+        x.track(2, 9, 2);
+        add(x, 0, 1, 0, 4, 0);
+        x.run(4);
+        at("under way", x, 0, 1, 1, 7, 1, 0, 0);
+        x.track(2, 9, 2);
+        add(x, 0, 1, 1);
+        at("a new one begins at cell 0", x, 0, 0, 1, 0, 0, 0, 0);
     }
 
     private static void chariot() {

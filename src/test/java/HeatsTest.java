@@ -390,22 +390,56 @@ public final class HeatsTest {
         }
     }
 
-    /** Fewer have had none than rounds are odd: 3 of which two had one; the last of the row without one gets it. */
+    /** Of 17 in bouts: 17, 9, 5, 3; the three who are left can all have had a bye: then the last one of the row has it. */
     private static void byeAgainWhenAllHadOne() {
-        boolean changed = false;
-        for (int seed = 0; seed < 50; seed++) {
-            OldStadium x = withRunners(5);
+        int seen = 0;
+        for (int seed = 0; seed < 100; seed++) {
+            OldStadium x = withRunners(17);
             x.contest(1, 0, seed);
-            int first = x.count(4);
-            x.winner(0, x.lane(0, 0));
-            x.winner(1, x.lane(1, 0));
+            int had = 1 << x.count(4);
+            for (int round = 1; round <= 2; round++) {
+                winnersOf(x, had);
+                x.next();
+                had |= 1 << x.count(4);
+            }
+            winnersOf(x, had);
+            int r = x.count(6);
             x.next();
-            Check.is("three left, seed " + seed, x.count(3), 1);
-            int second = x.count(4);
-            Check.is("another one, seed " + seed, second == first, false);
-            changed |= x.lane(0, 0) == first || x.lane(0, 1) == first;
+            int left = 1 << x.lane(0, 0) | 1 << x.lane(0, 1) | 1 << x.count(4);
+            if (left == had) {
+                seen++;
+                int[] row = mixedThree(left, r);
+                Check.is("lane 0 of three with byes, seed " + seed, x.lane(0, 0), row[0]);
+                Check.is("lane 1 of three with byes, seed " + seed, x.lane(0, 1), row[1]);
+                Check.is("bye of three with byes, seed " + seed, x.count(4), row[2]);
+            }
         }
-        Check.is("one with a bye runs later", changed, true);
+        Check.is("often all had one", seen > 10, true);
+    }
+
+    /** In each heat one of those told wins, if there is one. */
+    private static void winnersOf(OldStadium x, int told) {
+        for (int h = 0; h < x.count(3); h++) {
+            x.winner(h, x.lane(h, (told >> x.lane(h, 1) & 1)));
+        }
+    }
+
+    private static int[] mixedThree(int bits, int r) {
+        int[] row = new int[3];
+        int many = 0;
+        for (int runner = 0; runner < 24; runner++) {
+            if ((bits >> runner & 1) == 1) {
+                row[many++] = runner;
+            }
+        }
+        for (int i = 2; i >= 1; i--) {
+            r = r * 1103515245 + 12345;
+            int j = (r >>> 16) % (i + 1);
+            int there = row[i];
+            row[i] = row[j];
+            row[j] = there;
+        }
+        return row;
     }
 
     private static void runnersWhoComeLater() {
