@@ -74,6 +74,12 @@ public final class BoundsChariotsTest {
         return x;
     }
 
+    private static OldStadium underWay() {
+        OldStadium x = fullTrack();
+        Check.is("all are on the track", x.run(50), 8);
+        return x;
+    }
+
     private static void at(String when, OldStadium x, int chariot, int... due) {
         for (int what = 0; what < due.length; what++) {
             Check.is(when + ": at(" + chariot + ", " + what + ")", x.at(chariot, what), due[what]);
@@ -129,7 +135,7 @@ public final class BoundsChariotsTest {
     private static void trackInPlaceOfAny() {
         String due = Probe.of(() -> track(3, 7, 2));
         List<Supplier<OldStadium>> states = List.of(BoundsChariotsTest::ready, BoundsChariotsTest::amid,
-            BoundsChariotsTest::fullTrack);
+            BoundsChariotsTest::fullTrack, BoundsChariotsTest::underWay);
         for (Supplier<OldStadium> state : states) {
             Check.is("a new track", Probe.of(() -> {
                 OldStadium x = state.get();

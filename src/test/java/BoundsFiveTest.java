@@ -100,13 +100,13 @@ public final class BoundsFiveTest {
             for (int order = -20_000; order < 130_000; order++) {
                 boolean due = isOrder(order, n);
                 Check.is("event(" + order + ") of " + n, x.event(order), due ? 1 : NONE);
-                if (due) {
-                    taken++;
-                    x.five(n);
+                taken += due ? 1 : 0;
+                if (due || order % 500 == 0) {
+                    Check.is("nothing else was told of " + n, x.athlete(0, 1) > 0, due);
+                    x = told(n);
                 }
             }
             Check.is("orders of " + n, taken, new int[] {1, 2, 6, 24}[n - 1]);
-            Check.is("nothing told of " + n, x.athlete(0, 1), 0);
         }
     }
 

@@ -483,6 +483,7 @@ public final class BoundsHeatsTest {
     private static void oneRunnerWithABye() {
         for (int kind = 0; kind < 2; kind++) {
             OldStadium x = runners(1);
+            x.judge(3);
             Check.is("no heats of one", x.contest(kind, 2, -9), 0);
             Check.is("one has the bye", x.count(4), 0);
             Check.is("round 1 of one", x.count(2), 1);

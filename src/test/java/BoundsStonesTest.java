@@ -160,6 +160,7 @@ public final class BoundsStonesTest {
     private static void promise22() {
         joinRefused();
         joinOfAllPairs();
+        joinsBesideOneAnother();
         joinAgain();
     }
 
@@ -197,6 +198,39 @@ public final class BoundsStonesTest {
                     Check.is("one of the two is wrong" + of, x.wrong(), 1 << Math.min(a, b));
                     Check.is("parting" + of, x.join(b, a, false), true);
                     Check.is("a roll, parted" + of, x.rolls(), 1);
+                }
+            }
+        }
+    }
+
+    /** All pairs are joined and all but one are parted: that one is left, and no other. */
+    private static void joinsBesideOneAnother() {
+        for (int a = 0; a < 6; a++) {
+            for (int b = 0; b < 6; b++) {
+                if (a != b) {
+                    OldStadium x = new OldStadium();
+                    for (int i = 0; i < 6; i++) {
+                        add(x, i, i % 4, 4 * i, 4 * i, (1 << 16) * (i % 2));
+                    }
+                    x.span(0);
+                    joinAll(x, true, NONE, NONE);
+                    Check.is("all joined, in six years", x.wrong(), 0b011111);
+                    joinAll(x, false, a, b);
+                    Check.is("left are " + a + " and " + b, x.wrong(), 1 << Math.min(a, b));
+                    x.join(a, b, false);
+                    Check.is("none are left", x.rolls(), 1);
+                }
+            }
+        }
+    }
+
+    /** All pairs but one; every other one is told the other way round. */
+    private static void joinAll(OldStadium x, boolean are, int butA, int butB) {
+        for (int a = 0; a < 6; a++) {
+            for (int b = 0; b < a; b++) {
+                if (a != Math.max(butA, butB) || b != Math.min(butA, butB)) {
+                    boolean turned = (a + b) % 2 == 0;
+                    Check.is("told", x.join(turned ? a : b, turned ? b : a, are), true);
                 }
             }
         }
@@ -305,18 +339,20 @@ public final class BoundsStonesTest {
         eventsAndTownsOfTheOthers();
     }
 
+    /** Those of events 0 .. 3 have towns 5 .. 8; a fifth one of each event and town tells them apart. */
     private static void eventsAndTownsOfTheOthers() {
         for (int lost = 0; lost < 5; lost++) {
             OldStadium x = new OldStadium();
             for (int i = 0; i < 5; i++) {
-                x.stone(i == lost ? 0 : i < lost ? i : i - 1, 7, 7, 0, 0, i == lost ? 0 : i < lost ? i : i - 1);
+                int event = i == lost ? 0 : i < lost ? i : i - 1;
+                x.stone(event, 7, 7, 0, 0, event + 5);
             }
             x.lose(lost);
-            for (int i = 0; i < 4; i++) {
-                for (int town = 0; town < 4; town++) {
-                    Check.is("a new one", x.stone(i, 7, 7, 0, 0, town), 4);
-                    Check.is("agrees with " + i, x.agree(i, 4), i == town ? 1 : 0);
-                    Check.is("meets " + i + " alone", x.rolls(), i == town ? 1 : 0);
+            for (int event = 0; event < 4; event++) {
+                for (int town = 5; town < 9; town++) {
+                    Check.is("a new one", x.stone(event, 7, 7, 0, 0, town), 4);
+                    Check.is("its town is that of " + event, x.agree(event, 4), event + 5 == town ? 1 : 0);
+                    Check.is("its event is that of " + event, x.rolls(), event + 5 == town ? 1 : 0);
                     x.lose(4);
                 }
             }
@@ -532,6 +568,9 @@ public final class BoundsStonesTest {
         Check.is("years of span 1", x.year(0, 0), 2);
         x.join(1, 0, false);
         Check.is("parted", x.rolls(), 36);
+        Check.is("wrong asked between", x.wrong(), 0);
+        Check.is("the greatest year stays", x.year(0, 1), 5);
+        Check.is("the number of years stays", x.year(1, 2), 6);
         x.lose(0);
         Check.is("the second one", x.rolls(), 6);
         Check.is("its least year", x.year(0, 0), 3);

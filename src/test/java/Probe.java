@@ -1,3 +1,4 @@
+import java.util.List;
 import java.util.function.Supplier;
 
 /**
@@ -16,28 +17,26 @@ final class Probe {
 
     static String of(Supplier<OldStadium> made) {
         StringBuilder all = new StringBuilder();
-        Probe p = new Probe(made.get());
-        p.counts();
-        p.playContest();
-        all.append(p.told);
-        p = new Probe(made.get());
-        p.decideAll();
-        p.counts();
-        p.playContest();
-        p.newContest();
-        all.append(p.told);
-        p = new Probe(made.get());
-        p.five();
-        all.append(p.told);
-        p = new Probe(made.get());
-        p.drive();
-        all.append(p.told);
-        p = new Probe(made.get());
-        p.chariots();
-        all.append(p.told);
-        p = new Probe(made.get());
-        p.stones();
-        return all.append(p.told).toString();
+        Probe contest = new Probe(made.get());
+        contest.counts();
+        contest.playContest();
+        Probe votes = new Probe(made.get());
+        votes.decideAll();
+        votes.playContest();
+        Probe towns = new Probe(made.get());
+        towns.newContest();
+        Probe five = new Probe(made.get());
+        five.five();
+        Probe more = new Probe(made.get());
+        more.drive();
+        Probe chariots = new Probe(made.get());
+        chariots.chariots();
+        Probe stones = new Probe(made.get());
+        stones.stones();
+        for (Probe p : List.of(contest, votes, towns, five, more, chariots, stones)) {
+            all.append(p.told);
+        }
+        return all.toString();
     }
 
     private void say(long answer) {
@@ -52,43 +51,51 @@ final class Probe {
         for (int what = 0; what < 8; what++) {
             say(x.count(what));
         }
-        for (int heat = 0; heat < x.count(3); heat++) {
-            for (int i = 0; i < 6; i++) {
-                say(x.lane(heat, i));
+        int heats = x.count(3);
+        for (int heat = 0; heat < heats; heat++) {
+            int runner = 0;
+            for (int i = 0; i < 6 && runner != OldStadium.NONE; i++) {
+                runner = x.lane(heat, i);
+                say(runner);
             }
         }
-        for (int runner = 0; runner < x.count(0); runner++) {
+        int runners = x.count(0);
+        for (int runner = 0; runner < runners; runner++) {
             say(x.heat(runner));
         }
     }
 
     private void decideAll() {
-        for (int heat = 0; heat < x.count(3); heat++) {
+        int heats = x.count(3);
+        for (int heat = 0; heat < heats; heat++) {
             say(x.decide(heat));
         }
     }
 
     /** Names winners of the later heats first, and none more than are wanted: those told already stay. */
     private void playContest() {
-        for (int round = 0; round < 6; round++) {
+        int heats = 1;
+        for (int round = 0; round < 6 && heats > 0; round++) {
             for (int heat = x.count(3) - 1; heat >= 0 && x.count(7) > 0; heat--) {
                 say(x.winner(heat, x.lane(heat, 0)));
             }
-            say(x.next());
+            heats = x.next();
+            say(heats);
             counts();
         }
     }
 
-    /** One more runner, all judges' votes for another: this tells the towns. */
+    /** One more runner and judge, and votes of all judges in all heats: this tells the towns. */
     private void newContest() {
         say(x.runner(0));
         say(x.judge(0));
-        say(x.contest(1, 0, 77));
-        for (int heat = 0; heat < x.count(3); heat++) {
-            for (int judge = 0; judge < x.count(1); judge++) {
-                say(x.vote(judge, heat, x.lane(heat, 0)));
+        int heats = x.contest(1, 0, 77);
+        int judges = x.count(1);
+        for (int heat = 0; heat < heats; heat++) {
+            int[] runners = {x.lane(heat, 0), x.lane(heat, 1)};
+            for (int judge = 0; judge < judges; judge++) {
+                say(x.vote(judge, heat, runners[judge % 2]));
                 say(x.decide(heat));
-                say(x.vote(judge, heat, x.lane(heat, 1)));
             }
         }
     }
@@ -119,39 +126,59 @@ final class Probe {
     }
 
     private void chariots() {
-        for (int i = 0; i < 28; i++) {
-            for (int c = 0; c < 8; c++) {
-                for (int what = 0; what < 6; what++) {
-                    say(x.at(c, what));
-                }
-            }
-            say(x.run(1));
+        int many = 0;
+        while (many < 8 && x.at(many, 0) != OldStadium.NONE) {
+            many++;
         }
+        atAll(many);
+        for (int i = 0; i < 28; i++) {
+            say(x.run(1));
+            for (int c = 0; c < many; c++) {
+                say(x.at(c, 2));
+            }
+        }
+        atAll(many);
         say(x.run(200));
+        atAll(many);
+    }
+
+    private void atAll(int many) {
+        for (int c = 0; c < many; c++) {
+            for (int what = 0; what < 6; what++) {
+                say(x.at(c, what));
+            }
+        }
     }
 
     private void stones() {
-        roll();
+        int many = 0;
+        while (x.letter(many, 0) != OldStadium.NONE) {
+            for (int i = 0; i < 8; i++) {
+                say(x.letter(many, i));
+                say(x.agree(many, i));
+            }
+            many++;
+        }
+        roll(many);
         say(x.span(0));
-        roll();
+        roll(many);
         say(x.span(40));
         for (int i = 0; i < 7; i++) {
-            roll();
+            roll(many);
             say(x.stone(0, 7, 8, 0x02000000, 0, 3));
-            roll();
+            roll(Math.min(many + 1, 6));
             say(x.lose(i % 2));
             say(x.lose(0));
+            many = Math.max(0, Math.min(many + 1, 6) - 2);
         }
     }
 
-    private void roll() {
+    private void roll(int many) {
         say(x.rolls());
         say(x.wrong());
-        for (int s = 0; s < 6; s++) {
-            for (int i = 0; i < 8; i++) {
-                say(x.letter(s, i));
-                say(x.agree(s, i));
-                say(x.year(s, i));
+        for (int s = 0; s < many; s++) {
+            for (int what = 0; what < 3; what++) {
+                say(x.year(s, what));
             }
         }
     }
